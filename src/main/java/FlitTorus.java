@@ -21,9 +21,9 @@ public final class FlitTorus {
     private static final int MOST_LEAVING = 2;
     private static final int GOLDEN_MARGIN = 8;
 
+    private final Router router;
     private final Grid grid;
     private final Rank rank;
-    private final Router router;
     private final Node[] nodes;
     private int nodesMade;
     /** The packets whose note is on its way, in the order in which the notes were sent. */
@@ -43,9 +43,9 @@ public final class FlitTorus {
 
     /** Promise 1. */
     public FlitTorus() {
-        grid = new Grid();
-        rank = new Rank();
-        router = new Router(grid, rank);
+        router = new Router();
+        grid = router.grid;
+        rank = router.rank;
         nodes = new Node[MOST_NODES];
         mail = new Row();
         sparePackets = new Row();
@@ -527,8 +527,8 @@ public final class FlitTorus {
             for (int i = 0; i < found && i < size; i++) {
                 int node = reached[i];
                 for (int way = 0; way < WAYS; way++) {
-                    int next = beside(node, way);
-                    if (isOpen(node, way) && stepsTo[first + next] == NONE) {
+                    int next = besides[node * WAYS + way];
+                    if (opens[node * WAYS + way] && stepsTo[first + next] == NONE) {
                         stepsTo[first + next] = stepsTo[first + node] + 1;
                         reached[found] = next;
                         found++;
@@ -571,14 +571,8 @@ public final class FlitTorus {
         int noteDue;
         /** One link is enough: a packet waits, is asked for, has a note on its way or goes again. */
         Packet next;
-        final Flit[] flits;
-
-        Packet() {
-            flits = new Flit[MOST_FLITS];
-            for (int i = 0; i < MOST_FLITS; i++) {
-                flits[i] = new Flit(this, i);
-            }
-        }
+        /** Those that any packet of this object has needed so far; they serve again. */
+        final Flit[] flits = new Flit[MOST_FLITS];
 
         void fill(int source, int goal, int length, int tag) {
             this.source = source;
@@ -590,6 +584,15 @@ public final class FlitTorus {
             entered = 0;
             flitsInNet = 0;
             wasAsked = false;
+            makeFlits();
+        }
+
+        private void makeFlits() {
+            for (int i = 0; i < length && i < MOST_FLITS; i++) {
+                if (flits[i] == null) {
+                    flits[i] = new Flit(this, i);
+                }
+            }
         }
     }
 
@@ -942,16 +945,11 @@ public final class FlitTorus {
     private static final class Router {
         /** The flits by the ways that they got. */
         final Flit[] out = new Flit[WAYS];
-        private final Grid grid;
-        private final Rank rank;
+        final Grid grid = new Grid();
+        final Rank rank = new Rank();
         private final Flit[] ranked = new Flit[WAYS];
         /** Behind the first two cells: the two that went up, then the two that went down. */
         private final Flit[] middle = new Flit[WAYS];
-
-        Router(Grid grid, Rank rank) {
-            this.grid = grid;
-            this.rank = rank;
-        }
 
         void chooseByRank(Flit[] here, int node) {
             for (int way = 0; way < WAYS; way++) {
@@ -1008,7 +1006,8 @@ public final class FlitTorus {
         private void passFirstCell(int node, Flit a, Flit b, int up) {
             Flit high = rank.higher(a, b);
             Flit low = high == a ? b : a;
-            boolean goesUp = wants(node, 0, high) || wants(node, 1, high);
+            boolean goesUp = high != null
+                    && (grid.isWanted(node, 0, high.packet.goal) || grid.isWanted(node, 1, high.packet.goal));
             middle[up] = goesUp ? high : low;
             middle[up + 2] = goesUp ? low : high;
         }
@@ -1016,13 +1015,10 @@ public final class FlitTorus {
         private void passLastCell(int node, Flit a, Flit b, int way) {
             Flit high = rank.higher(a, b);
             Flit low = high == a ? b : a;
-            boolean getsLower = wants(node, way, high) || !wants(node, way + 1, high);
+            boolean getsLower = high == null || grid.isWanted(node, way, high.packet.goal)
+                    || !grid.isWanted(node, way + 1, high.packet.goal);
             out[way] = getsLower ? high : low;
             out[way + 1] = getsLower ? low : high;
-        }
-
-        private boolean wants(int node, int way, Flit flit) {
-            return flit != null && grid.isWanted(node, way, flit.packet.goal);
         }
     }
 }
