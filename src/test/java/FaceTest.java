@@ -23,7 +23,9 @@ final class FaceTest {
 
     public static void main(String[] args) {
         Check check = new Check("FaceTest");
+        check.sentence("Terms", "The constants: `NONE = -1`: None.");
         check.equal("NONE", FlitTorus.NONE, -1);
+        check.sentence("The public face", "public final class FlitTorus {");
         check.isTrue("public and final", FlitTorus.class.getModifiers() == (Modifier.PUBLIC | Modifier.FINAL));
         methods(check);
         members(check);

@@ -1,41 +1,59 @@
-import java.util.ArrayList;
 import java.util.List;
 
-/** Promise 1: a new object is as after reset(2, 0, 1). */
+/** Promise 1: a new object. */
 final class NewObjectTest {
+    private static final String SENTENCE = "`FlitTorus()`: As after reset(2, 0, 1).";
+
     public static void main(String[] args) {
         Check check = new Check("NewObjectTest");
         nothingIsThere(check);
+        fourNodes(check);
+        modeNought(check);
         sameAnswers(check);
         check.end();
     }
 
     private static void nothingIsThere(Check check) {
+        check.sentence("Promise 1", SENTENCE);
         FlitTorus x = new FlitTorus();
-        for (int what = 0; what <= 5; what++) {
-            check.equal("count(" + what + ")", x.count(what), 0);
-        }
+        check.counts(x, 0, 0, 0, 0, 0, 0);
         for (int node = 0; node < 4; node++) {
-            for (int what = 0; what <= 8; what++) {
-                check.equal("node(" + node + ", " + what + ")", x.node(node, what), 0);
+            check.node(x, node, 0, 0, 0, 0, 0, 0, 0, 0, 0);
+            check.taken(x, node, FlitTorus.NONE, FlitTorus.NONE, FlitTorus.NONE);
+            for (int line = 0; line < 4; line++) {
+                check.noFlit(x, node, line);
             }
-            check.equal("taken(" + node + ", 0)", x.taken(node, 0), FlitTorus.NONE);
-            check.equal("flit(" + node + ", 0, 0)", x.flit(node, 0, 0), FlitTorus.NONE);
             check.takeThrows(x, node, IllegalStateException.class);
         }
+        check.cycles(x, 0);
+    }
+
+    private static void fourNodes(Check check) {
+        check.sentence("Promise 1", SENTENCE);
+        FlitTorus x = new FlitTorus();
+        check.equal("node(3, 0)", x.node(3, 0), 0);
         check.equal("node(4, 0)", x.node(4, 0), FlitTorus.NONE);
         check.equal("distance(0, 3)", x.distance(0, 3), 2);
-        check.isFalse("link(0, 0, true) of an open one", x.link(0, 0, true));
-        check.equal("cycle()", x.cycle(), 0);
+        check.isTrue("put(0, 3, 1, 1)", x.put(0, 3, 1, 1));
+        check.isFalse("put(0, 4, 1, 1)", x.put(0, 4, 1, 1));
+    }
+
+    private static void modeNought(Check check) {
+        check.sentence("Promise 1", SENTENCE);
+        FlitTorus x = new FlitTorus();
+        for (int way = 0; way < 4; way++) {
+            check.isFalse("all links are open: link(0, " + way + ", true)", x.link(0, way, true));
+        }
         check.isTrue("mode 0: link(0, 0, false)", x.link(0, 0, false));
     }
 
     private static void sameAnswers(Check check) {
-        List<Integer> due = crowdedRun(afterReset(0, 1));
-        check.isTrue("a new one answers as after reset(2, 0, 1)", crowdedRun(new FlitTorus()).equals(due));
+        check.sentence("Promise 1", SENTENCE);
+        List<Integer> due = Nets.crowdedRun(afterReset(0, 1), 50);
+        check.isTrue("a new one answers as after reset(2, 0, 1)", Nets.crowdedRun(new FlitTorus(), 50).equals(due));
         // The run tells other modes and patiences from these, or it would show nothing.
-        check.isFalse("as after reset(2, 1, 1)", crowdedRun(afterReset(1, 1)).equals(due));
-        check.isFalse("as after reset(2, 0, 2)", crowdedRun(afterReset(0, 2)).equals(due));
+        check.isFalse("as after reset(2, 1, 1)", Nets.crowdedRun(afterReset(1, 1), 50).equals(due));
+        check.isFalse("as after reset(2, 0, 2)", Nets.crowdedRun(afterReset(0, 2), 50).equals(due));
     }
 
     private static FlitTorus afterReset(int mode, int patience) {
@@ -45,18 +63,5 @@ final class NewObjectTest {
         x.cycle();
         x.reset(2, mode, patience);
         return x;
-    }
-
-    private static List<Integer> crowdedRun(FlitTorus x) {
-        List<Integer> answers = new ArrayList<>();
-        for (int i = 0; i < 60; i++) {
-            for (int node = 1; node < 4; node++) {
-                answers.add(x.put(node, 0, 8, i) ? 1 : 0);
-            }
-            answers.add(x.cycle());
-            answers.add(x.count(1));
-            answers.add(x.count(5));
-        }
-        return answers;
     }
 }
