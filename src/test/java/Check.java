@@ -20,6 +20,23 @@ final class Check {
         this.test = test;
     }
 
+    /** One test: it asks for answers, and says before which words of the document they are held against. */
+    interface Test {
+        void run(Check check);
+    }
+
+    /** Each for itself: one that throws is a fault, and those behind it are run all the same. */
+    void run(Test... tests) {
+        for (Test one : tests) {
+            try {
+                one.run(this);
+            } catch (RuntimeException e) {
+                fault("threw " + e + " at " + e.getStackTrace()[0]);
+            }
+            endSentence();
+        }
+    }
+
     /** From here on the answers are held against these words of a part of the document. */
     void sentence(String part, String words) {
         endSentence();
@@ -121,6 +138,7 @@ final class Check {
             fault("nothing was asked");
         }
         held = "";
+        askedBefore = asked;
     }
 
     /** Only where .ci/run has told the document's path, so that a test can be run alone too. */

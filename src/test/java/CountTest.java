@@ -2,14 +2,8 @@
 final class CountTest {
     public static void main(String[] args) {
         Check check = new Check("CountTest");
-        allAtFirst(check);
-        flitsInTheNet(check);
-        deflected(check);
-        receivedOrLost(check);
-        cycleToCome(check);
-        askedFor(check);
-        turn(check);
-        anotherWhat(check);
+        check.run(CountTest::allAtFirst, CountTest::flitsInTheNet, CountTest::deflected, CountTest::receivedOrLost,
+                CountTest::cycleToCome, CountTest::askedFor, CountTest::turn, CountTest::anotherWhat);
         check.end();
     }
 

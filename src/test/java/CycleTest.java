@@ -4,12 +4,8 @@ final class CycleTest {
 
     public static void main(String[] args) {
         Check check = new Check("CycleTest");
-        emptyNet(check);
-        onePacket(check);
-        leavingIsNoWay(check);
-        fullNet(check);
-        oneCycleEach(check);
-        lostAndSentAgain(check);
+        check.run(CycleTest::emptyNet, CycleTest::onePacket, CycleTest::leavingIsNoWay, CycleTest::fullNet,
+                CycleTest::oneCycleEach, CycleTest::lostAndSentAgain);
         check.end();
     }
 

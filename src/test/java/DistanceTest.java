@@ -2,12 +2,8 @@
 final class DistanceTest {
     public static void main(String[] args) {
         Check check = new Check("DistanceTest");
-        wholeNets(check);
-        toItself(check);
-        closedLinks(check);
-        twoLinksBetweenTheSameNodes(check);
-        greatest(check);
-        oneIsNoNode(check);
+        check.run(DistanceTest::wholeNets, DistanceTest::toItself, DistanceTest::closedLinks,
+                DistanceTest::twoLinksBetweenTheSameNodes, DistanceTest::greatest, DistanceTest::oneIsNoNode);
         check.end();
     }
 

@@ -7,16 +7,11 @@ final class FlitTest {
     public static void main(String[] args) {
         Check check = new Check("FlitTest");
         for (int mode = 0; mode <= 1; mode++) {
-            everyLine(check, mode);
-            onTheWay(check, mode);
-            highestNumbers(check, mode);
+            int one = mode;
+            check.run(c -> everyLine(c, one), c -> onTheWay(c, one), c -> highestNumbers(c, one));
         }
-        lineOfTwoLinks(check);
-        secondTry(check);
-        thereIsNone(check);
-        noSuchNode(check);
-        noSuchLine(check);
-        noSuchWhat(check);
+        check.run(FlitTest::lineOfTwoLinks, FlitTest::secondTry, FlitTest::firstTryBesideGo, FlitTest::thereIsNone,
+                FlitTest::noSuchNode, FlitTest::noSuchLine, FlitTest::noSuchWhat);
         check.end();
     }
 
@@ -89,6 +84,21 @@ final class FlitTest {
         check.flit(x, 1, 0, 0, 0, 0, 1, 13, 2);
         x.cycle();
         check.flit(x, 1, 0, 0, 0, 1, 1, 14, 2);
+    }
+
+    /** A flit's TRY is that with which it entered, also when GO has been told for its packet. */
+    private static void firstTryBesideGo(Check check) {
+        check.sentence("Promise 11", "entry (4), TRY (5).");
+        FlitTorus x = Nets.net(5, 0, 9);
+        Nets.fill(x, 7, 2);
+        x.put(0, 2, 8, 100);
+        Nets.run(x, 3);
+        x.take(2);
+        Nets.run(x, 3);
+        check.equal("GO was told: node(0, 8)", x.node(0, 8), 1);
+        check.flit(x, 2, 0, 0, 0, 4, 2, 13, 1);
+        x.cycle();
+        check.flit(x, 1, 0, 0, 0, 0, 2, 15, 2);
     }
 
     private static void thereIsNone(Check check) {

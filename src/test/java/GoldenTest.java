@@ -1,14 +1,12 @@
 /** Promise 10: golden. (That the golden flit is of highest rank is looked at in TermsRankTest.) */
 final class GoldenTest {
-    private static final String TELLS = "The golden one of the cycle to come: its node (what 0), slot (1), number of flit (2).";
+    private static final String TELLS = "The golden one of the cycle to come: its node (what 0), slot (1),"
+            + " number of flit (2).";
 
     public static void main(String[] args) {
         Check check = new Check("GoldenTest");
-        everySize(check);
-        nextSlot(check);
-        closedLinks(check);
-        allOfARun(check);
-        anotherWhat(check);
+        check.run(GoldenTest::everySize, GoldenTest::nextSlot, GoldenTest::closedLinks, GoldenTest::allOfARun,
+                GoldenTest::anotherWhat);
         check.end();
     }
 

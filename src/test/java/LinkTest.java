@@ -7,23 +7,11 @@ final class LinkTest {
 
     public static void main(String[] args) {
         Check check = new Check("LinkTest");
-        closedAndOpened(check);
-        noSuchNode(check);
-        noSuchWay(check);
-        modeOne(check);
-        soAlready(check);
-        oneWaits(check);
-        oneIsUnderWay(check);
-        oneIsInASlot(check);
-        atAnyNode(check);
-        noteIsOnItsWay(check);
-        readyOnesForbidNothing(check);
-        twoWaysHere(check);
-        twoWaysThere(check);
-        openingHasNoLimit(check);
-        smallestNetFallsApart(check);
-        largerNetFallsApart(check);
-        refusedChangesNothing(check);
+        check.run(LinkTest::closedAndOpened, LinkTest::noSuchNode, LinkTest::noSuchWay, LinkTest::modeOne,
+                LinkTest::soAlready, LinkTest::oneWaits, LinkTest::oneIsUnderWay, LinkTest::oneIsInASlot,
+                LinkTest::atAnyNode, LinkTest::noteIsOnItsWay, LinkTest::readyOnesForbidNothing,
+                LinkTest::twoWaysHere, LinkTest::twoWaysThere, LinkTest::openingHasNoLimit,
+                LinkTest::smallestNetFallsApart, LinkTest::largerNetFallsApart, LinkTest::refusedChangesNothing);
         check.end();
     }
 

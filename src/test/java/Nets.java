@@ -38,7 +38,7 @@ final class Nets {
         x.cycle();
     }
 
-    /** In a net of 25 the first of these come to node 12 after one cycle, on lines 0, 1, 2 and 3, and want to go straight on. */
+    /** In a net of 25 the first of these come to node 12 after one cycle, on lines 0, 1, 2 and 3, and want to go on. */
     static FlitTorus cross(FlitTorus x, int flits) {
         int[] from = {11, 13, 7, 17};
         int[] to = {13, 11, 17, 7};
@@ -49,7 +49,10 @@ final class Nets {
         return x;
     }
 
-    /** Node 6 of 25 with two open ways, and a flit on each of them in every cycle from 1 to 8, while it has one to let enter. */
+    /**
+     * Node 6 of 25 with two open ways, a flit to let enter, and from cycle 1 to 8 two flits that cross there,
+     * if none is held back. The cycle to come is 1.
+     */
     static FlitTorus crossing(int patience) {
         FlitTorus x = net(5, 0, patience);
         x.link(6, 2, false);

@@ -6,10 +6,8 @@ final class NewObjectTest {
 
     public static void main(String[] args) {
         Check check = new Check("NewObjectTest");
-        nothingIsThere(check);
-        fourNodes(check);
-        modeNought(check);
-        sameAnswers(check);
+        check.run(NewObjectTest::nothingIsThere, NewObjectTest::fourNodes, NewObjectTest::modeNought,
+                NewObjectTest::sameAnswers);
         check.end();
     }
 

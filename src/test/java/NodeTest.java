@@ -2,24 +2,16 @@
 final class NodeTest {
     public static void main(String[] args) {
         Check check = new Check("NodeTest");
-        wayOfAPacket(check);
-        packetsThatWait(check);
-        slotsNotFree(check);
-        packetsReady(check);
-        placesNotEmpty(check);
-        rowOfThoseAskedFor(check);
-        flitsThere(check);
-        flitsThatWentOut(check);
-        latestHungryCycles(check);
-        rowAgain(check);
-        noSuchNode(check);
-        noSuchWhat(check);
+        check.run(NodeTest::wayOfAPacket, NodeTest::packetsThatWait, NodeTest::slotsNotFree, NodeTest::packetsReady,
+                NodeTest::placesNotEmpty, NodeTest::rowOfThoseAskedFor, NodeTest::flitsThere,
+                NodeTest::flitsThatWentOut, NodeTest::latestHungryCycles, NodeTest::rowAgain, NodeTest::noSuchNode,
+                NodeTest::noSuchWhat);
         check.end();
     }
 
     private static void wayOfAPacket(Check check) {
-        check.sentence("Promise 9", "Of a node: packets that wait (what 0), slots that are not free (1), packets READY (2),"
-                + " places that aren't empty (3), packets in its row of those asked for (4), flits there (5)");
+        check.sentence("Promise 9", "Of a node: packets that wait (what 0), slots that are not free (1), packets READY"
+                + " (2), places that aren't empty (3), packets in its row of those asked for (4), flits there (5)");
         FlitTorus x = Nets.net(4, 0, 9);
         x.put(0, 2, 2, 1);
         x.put(0, 2, 1, 2);
@@ -137,6 +129,11 @@ final class NodeTest {
         check.equal("count(2)", x.count(2), 4);
         check.equal("node(11, 6)", x.node(11, 6), 1);
         check.equal("node(12, 6)", x.node(12, 6), 4);
+        x.put(12, 13, 2, 0);
+        x.cycle();
+        check.equal("node(12, 6)", x.node(12, 6), 5);
+        x.cycle();
+        check.equal("node(12, 6)", x.node(12, 6), 6);
     }
 
     private static void latestHungryCycles(Check check) {

@@ -4,14 +4,8 @@ import java.util.List;
 final class PutTest {
     public static void main(String[] args) {
         Check check = new Check("PutTest");
-        waitsAtItsSource(check);
-        inOrder(check);
-        noSuchNode(check);
-        bothTheSame(check);
-        length(check);
-        fourWait(check);
-        fourWaitAtOneNode(check);
-        refusedChangesNothing(check);
+        check.run(PutTest::waitsAtItsSource, PutTest::inOrder, PutTest::noSuchNode, PutTest::bothTheSame,
+                PutTest::length, PutTest::fourWait, PutTest::fourWaitAtOneNode, PutTest::refusedChangesNothing);
         check.end();
     }
 

@@ -6,15 +6,9 @@ final class ResetTest {
 
     public static void main(String[] args) {
         Check check = new Check("ResetTest");
-        sizes(check);
-        linksAreOpen(check);
-        nothingIsInIt(check);
-        cycleNought(check);
-        modesAndPatiences(check);
-        wrongSize(check);
-        wrongMode(check);
-        wrongPatience(check);
-        refusedChangesNothing(check);
+        check.run(ResetTest::sizes, ResetTest::linksAreOpen, ResetTest::nothingIsInIt, ResetTest::noNoteIsLeft,
+                ResetTest::turnNought, ResetTest::cycleNought, ResetTest::modesAndPatiences, ResetTest::wrongSize,
+                ResetTest::wrongMode, ResetTest::wrongPatience, ResetTest::refusedChangesNothing);
         check.end();
     }
 
@@ -74,6 +68,32 @@ final class ResetTest {
             check.cycles(x, 0);
         }
         check.node(x, 1, 0, 0, 0, 0, 0, 0, 0, 0, 0);
+    }
+
+    private static void noNoteIsLeft(Check check) {
+        check.sentence("Promise 2", "nothing in it");
+        FlitTorus x = Nets.net(8, 0, 9);
+        x.put(0, 36, 1, 0);
+        Nets.run(x, 9);
+        // DONE was just sent from the farthest node.
+        check.node(x, 36, 0, 0, 1);
+        check.isTrue("reset(8, 0, 9)", x.reset(8, 0, 9));
+        x.put(0, 36, 1, 0);
+        for (int cycle = 0; cycle < 16; cycle++) {
+            x.cycle();
+            check.node(x, 0, 0, 1);
+        }
+        x.cycle();
+        check.node(x, 0, 0, 0);
+    }
+
+    private static void turnNought(Check check) {
+        check.sentence("Terms", "the TURN (0 at first)");
+        FlitTorus x = Nets.crossing(2);
+        Nets.run(x, 4);
+        check.equal("count(5)", x.count(5), 7);
+        check.isTrue("reset(5, 0, 2)", x.reset(5, 0, 2));
+        check.equal("count(5)", x.count(5), 0);
     }
 
     private static void cycleNought(Check check) {

@@ -4,16 +4,9 @@ import java.util.List;
 final class TakeTest {
     public static void main(String[] args) {
         Check check = new Check("TakeTest");
-        firstReadyOne(check);
-        tags(check);
-        lowestFullOneJoins(check);
-        oneJoinsAtMost(check);
-        noneHasAll(check);
-        noSuchNode(check);
-        noneIsReady(check);
-        noneIsReadyYet(check);
-        allAreTaken(check);
-        throwingChangesNothing(check);
+        check.run(TakeTest::firstReadyOne, TakeTest::tags, TakeTest::lowestFullOneJoins, TakeTest::oneJoinsAtMost,
+                TakeTest::noneHasAll, TakeTest::noSuchNode, TakeTest::noneIsReady, TakeTest::noneIsReadyYet,
+                TakeTest::allAreTaken, TakeTest::throwingChangesNothing);
         check.end();
     }
 
@@ -134,7 +127,8 @@ final class TakeTest {
     }
 
     private static void throwingChangesNothing(Check check) {
-        check.sentence("Promise 6", "IllegalArgumentException: there is no such node; IllegalStateException: none is ready.");
+        check.sentence("Promise 6", "IllegalArgumentException: there is no such node;"
+                + " IllegalStateException: none is ready.");
         FlitTorus x = Nets.net(2, 0, 2);
         Nets.crowdedRun(x, 6);
         List<Integer> due = Nets.crowdedRun(x, 30);

@@ -6,13 +6,8 @@ final class TakenTest {
 
     public static void main(String[] args) {
         Check check = new Check("TakenTest");
-        takenLast(check);
-        secondTry(check);
-        laterPackets(check);
-        noSuchNode(check);
-        noSuchWhat(check);
-        noneWasTaken(check);
-        behindReset(check);
+        check.run(TakenTest::takenLast, TakenTest::secondTry, TakenTest::laterPackets, TakenTest::noSuchNode,
+                TakenTest::noSuchWhat, TakenTest::noneWasTaken, TakenTest::behindReset);
         check.end();
     }
 

@@ -4,21 +4,13 @@ final class TermsEnteringTest {
 
     public static void main(String[] args) {
         Check check = new Check("TermsEnteringTest");
-        oneACycle(check);
-        fourOpenWays(check);
-        threeOpenWays(check);
-        twoOpenWays(check);
-        roomByLeaving(check);
-        nextOfThePacketUnderWay(check);
-        notUnderWayInThisTry(check);
-        againBeforeWaiting(check);
-        againWithAFlitInTheNet(check);
-        firstOfTheRowAlone(check);
-        waitingThoughAgainCannot(check);
-        waitingWithoutASlot(check);
-        againWithoutAFreeSlot(check);
-        entryIsTheCycle(check);
-        waysOfAll(check);
+        check.run(TermsEnteringTest::oneACycle, TermsEnteringTest::fourOpenWays, TermsEnteringTest::threeOpenWays,
+                TermsEnteringTest::twoOpenWays, TermsEnteringTest::roomByLeaving,
+                TermsEnteringTest::nextOfThePacketUnderWay, TermsEnteringTest::notUnderWayInThisTry,
+                TermsEnteringTest::againBeforeWaiting, TermsEnteringTest::againWithAFlitInTheNet,
+                TermsEnteringTest::firstOfTheRowAlone, TermsEnteringTest::waitingThoughAgainCannot,
+                TermsEnteringTest::waitingWithoutASlot, TermsEnteringTest::againWithoutAFreeSlot,
+                TermsEnteringTest::entryIsTheCycle, TermsEnteringTest::waysOfAll);
         check.end();
     }
 
@@ -137,7 +129,8 @@ final class TermsEnteringTest {
     }
 
     private static void againBeforeWaiting(Check check) {
-        check.sentence("Terms", "else flit 0 of the first one of the row AGAIN, if no flit of that packet is in the net");
+        check.sentence("Terms", "else flit 0 of the first one of the row AGAIN, if no flit of that packet is in"
+                + " the net");
         FlitTorus x = Nets.net(5, 0, 9);
         Nets.fill(x, 6, 1);
         Nets.send(x, 0, 1, 1, 100);
@@ -181,7 +174,7 @@ final class TermsEnteringTest {
         x.take(5);
         x.cycle();
         check.equal("node(0, 8)", x.node(0, 8), 0);
-        // Both notes are told. Of the first one of the row a flit is in the net; of the second none is, but it is not first.
+        // Both notes are told. Of the first one of the row a flit is in the net; of the second none is.
         check.cycles(x, 1);
         check.node(x, 0, 0, 2, 0, 0, 0, 0, 6, 0, 2);
         for (int number = 0; number < 8; number++) {

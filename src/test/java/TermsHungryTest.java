@@ -8,19 +8,12 @@ final class TermsHungryTest {
 
     public static void main(String[] args) {
         Check check = new Check("TermsHungryTest");
-        tooManyFlits(check);
-        heldBack(check);
-        patience(check);
-        firstFromTheTurnOn(check);
-        behindTheLastThoseFromNought(check);
-        turnBehindTheLast(check);
-        turnStays(check);
-        lookedAtOnce(check);
-        lookedAtBehindStepTwo(check);
-        letOneEnter(check);
-        nonePutYet(check);
-        noSlotIsFree(check);
-        wantWhileStarved(check);
+        check.run(TermsHungryTest::tooManyFlits, TermsHungryTest::heldBack, TermsHungryTest::patience,
+                TermsHungryTest::longPatience, TermsHungryTest::firstFromTheTurnOn,
+                TermsHungryTest::behindTheLastThoseFromNought, TermsHungryTest::turnBehindTheLast,
+                TermsHungryTest::turnStays, TermsHungryTest::lookedAtOnce, TermsHungryTest::lookedAtBehindStepTwo,
+                TermsHungryTest::letOneEnter, TermsHungryTest::nonePutYet, TermsHungryTest::noSlotIsFree,
+                TermsHungryTest::wantWhileStarved);
         check.end();
     }
 
@@ -66,6 +59,33 @@ final class TermsHungryTest {
         FlitTorus x = Nets.crossing(9);
         Nets.run(x, 12);
         check.equal("count(5)", x.count(5), 0);
+    }
+
+    /** Nodes 5 and 7 send without a gap, so that node 6 between them is hungry for a hundred cycles. */
+    private static void longPatience(Check check) {
+        check.sentence("Terms", "STARVED (hungry in the PATIENCE latest cycles, each)");
+        FlitTorus x = Nets.crossing(100);
+        for (int cycle = 1; cycle <= 100; cycle++) {
+            if (cycle % 8 == 1) {
+                x.put(5, 7, 8, 57);
+                x.put(7, 5, 8, 75);
+            }
+            if (cycle % 8 == 3 && cycle > 10) {
+                x.take(5);
+                x.take(7);
+            }
+            x.cycle();
+            check.equal("node(6, 7)", x.node(6, 7), cycle);
+        }
+        check.equal("none was held back: node(5, 7)", x.node(5, 7), 0);
+        check.equal("none was held back: node(7, 7)", x.node(7, 7), 0);
+        x.cycle();
+        check.equal("it is starved: node(5, 7)", x.node(5, 7), 1);
+        check.equal("it is starved: node(7, 7)", x.node(7, 7), 1);
+        check.equal("count(5)", x.count(5), 0);
+        x.cycle();
+        check.equal("it let one enter: node(6, 7)", x.node(6, 7), 0);
+        check.equal("count(5)", x.count(5), 7);
     }
 
     /** With a patience of 2: the cycle, how often 5, 6 and 7 were hungry, and the TURN behind each cycle. */

@@ -5,11 +5,8 @@ final class TermsLeavingTest {
 
     public static void main(String[] args) {
         Check check = new Check("TermsLeavingTest");
-        fourAtEach(check);
-        oneToFourCome(check);
-        goldenOneFirst(check);
-        inRisingOrder(check);
-        othersStay(check);
+        check.run(TermsLeavingTest::fourAtEach, TermsLeavingTest::oneToFourCome, TermsLeavingTest::goldenOneFirst,
+                TermsLeavingTest::inRisingOrder, TermsLeavingTest::othersStay);
         check.end();
     }
 
@@ -64,7 +61,7 @@ final class TermsLeavingTest {
         x.put(3, 1, 1, 3);
         x.put(11, 1, 1, 11);
         x.cycle();
-        // Flit 0 of slot 0 of node 0 is golden in cycles 0 to 23: it leaves first, then the lesser source of the older ones.
+        // Flit 0 of slot 0 of node 0 is golden till cycle 23: it leaves first, then the lesser source of the others.
         x.put(0, 1, 1, 100);
         check.cycles(x, 3);
         check.equal("node(1, 5)", x.node(1, 5), 3);

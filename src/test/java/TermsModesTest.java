@@ -2,19 +2,12 @@
 final class TermsModesTest {
     public static void main(String[] args) {
         Check check = new Check("TermsModesTest");
-        lowestWantedWay(check);
-        lowestWantedWayThatIsLeft(check);
-        lowestOpenWayThatIsLeft(check);
-        modeOneWithAllLinksOpen(check);
-        linesOfThoseThatCame(check);
-        linesOfThoseThatEnter(check);
-        lastFreeLine(check);
-        higherGoesUpOrDown(check);
-        wayByTheLastCells(check);
-        fromTheSecondCell(check);
-        oneIsMissing(check);
-        cellsAreFull(check);
-        deflected(check);
+        check.run(TermsModesTest::lowestWantedWay, TermsModesTest::lowestWantedWayThatIsLeft,
+                TermsModesTest::lowestOpenWayThatIsLeft, TermsModesTest::modeOneWithAllLinksOpen,
+                TermsModesTest::linesOfThoseThatCame, TermsModesTest::linesOfThoseThatEnter,
+                TermsModesTest::lastFreeLine, TermsModesTest::pairsOfLines, TermsModesTest::higherGoesUpOrDown,
+                TermsModesTest::wayByTheLastCells, TermsModesTest::fromTheSecondCell, TermsModesTest::oneIsMissing,
+                TermsModesTest::cellsAreFull, TermsModesTest::deflected);
         check.end();
     }
 
@@ -171,6 +164,32 @@ final class TermsModesTest {
         check.flit(x, 13, 0, 17);
         check.flit(x, 17, 2, 7);
         check.flit(x, 7, 3, 12);
+    }
+
+    private static void pairsOfLines(Check check) {
+        check.sentence("Terms", "Lines 0 and 1 come to a first cell, 2 and 3 to a second one;");
+        // Lines 1 and 2: each is alone in its cell, and both get what they want.
+        FlitTorus x = Nets.net(5, 1, 9);
+        x.put(13, 11, 1, 0);
+        x.put(7, 17, 1, 0);
+        check.cycles(x, 2, 2);
+        check.flit(x, 11, 1, 13);
+        check.flit(x, 17, 2, 7);
+        check.equal("count(1)", x.count(1), 0);
+        // Lines 0 and 3: likewise.
+        x = Nets.net(5, 1, 9);
+        x.put(11, 13, 1, 0);
+        x.put(17, 7, 1, 0);
+        check.cycles(x, 2, 2);
+        check.flit(x, 13, 0, 11);
+        check.flit(x, 7, 3, 17);
+        check.equal("count(1)", x.count(1), 0);
+        // Lines 0 and 1: they are in one cell, so the lower one has to go down.
+        x = Nets.cross(Nets.net(5, 1, 9), 2);
+        check.cycles(x, 2);
+        check.flit(x, 13, 0, 11);
+        check.flit(x, 17, 2, 13);
+        check.equal("count(1)", x.count(1), 1);
     }
 
     private static void higherGoesUpOrDown(Check check) {

@@ -5,12 +5,8 @@ final class TermsNetTest {
 
     public static void main(String[] args) {
         Check check = new Check("TermsNetTest");
-        nodes(check);
-        waysOverTheEdge(check);
-        linksOverTheEdge(check);
-        twoLinksBetweenTheSameNodes(check);
-        distances(check);
-        wantedWays(check);
+        check.run(TermsNetTest::nodes, TermsNetTest::waysOverTheEdge, TermsNetTest::linksOverTheEdge,
+                TermsNetTest::twoLinksBetweenTheSameNodes, TermsNetTest::distances, TermsNetTest::wantedWays);
         check.end();
     }
 

@@ -2,12 +2,8 @@
 final class TermsNotesTest {
     public static void main(String[] args) {
         Check check = new Check("TermsNotesTest");
-        cyclesFromNought(check);
-        inTheOrderOfSending(check);
-        dueOnesOnly(check);
-        sentAtTheSameTime(check);
-        doneFreesASlot(check);
-        goGoesAgain(check);
+        check.run(TermsNotesTest::cyclesFromNought, TermsNotesTest::inTheOrderOfSending, TermsNotesTest::dueOnesOnly,
+                TermsNotesTest::sentAtTheSameTime, TermsNotesTest::doneFreesASlot, TermsNotesTest::goGoesAgain);
         check.end();
     }
 

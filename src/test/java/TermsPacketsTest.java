@@ -2,13 +2,9 @@
 final class TermsPacketsTest {
     public static void main(String[] args) {
         Check check = new Check("TermsPacketsTest");
-        goals(check);
-        lengths(check);
-        fourWait(check);
-        eightSlots(check);
-        lowestFreeSlot(check);
-        slotIsKept(check);
-        firstTry(check);
+        check.run(TermsPacketsTest::goals, TermsPacketsTest::lengths, TermsPacketsTest::fourWait,
+                TermsPacketsTest::eightSlots, TermsPacketsTest::lowestFreeSlot, TermsPacketsTest::slotIsKept,
+                TermsPacketsTest::firstTry);
         check.end();
     }
 

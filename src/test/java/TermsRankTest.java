@@ -5,12 +5,9 @@ final class TermsRankTest {
 
     public static void main(String[] args) {
         Check check = new Check("TermsRankTest");
-        goldenBeforeOlder(check);
-        olderBeforeLesserSource(check);
-        lesserSource(check);
-        lastCycleOfTheGoldenOne(check);
-        anotherNumberSlotOrNode(check);
-        nextNumberThenNextSlot(check);
+        check.run(TermsRankTest::goldenBeforeOlder, TermsRankTest::olderBeforeLesserSource,
+                TermsRankTest::lesserSource, TermsRankTest::lastCycleOfTheGoldenOne,
+                TermsRankTest::anotherNumberSlotOrNode, TermsRankTest::nextNumberThenNextSlot);
         check.end();
     }
 

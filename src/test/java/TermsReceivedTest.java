@@ -10,20 +10,13 @@ final class TermsReceivedTest {
 
     public static void main(String[] args) {
         Check check = new Check("TermsReceivedTest");
-        fourPlaces(check);
-        countsForItsPlace(check);
-        firstTryDoesNotCountForTheSecond(check);
-        askedForTakesNoEmptyPlace(check);
-        lowestEmptyPlace(check);
-        lostAndAskedFor(check);
-        rowHasAnEnd(check);
-        fourthReadyOne(check);
-        noRoomAmongTheReadyOnes(check);
-        keptForTheFirstOfTheRow(check);
-        emptyRow(check);
-        onceInAll(check);
-        whenANoteIsDue(check);
-        whenANoteOfTakeIsDue(check);
+        check.run(TermsReceivedTest::fourPlaces, TermsReceivedTest::countsForItsPlace,
+                TermsReceivedTest::firstTryDoesNotCountForTheSecond, TermsReceivedTest::askedForTakesNoEmptyPlace,
+                TermsReceivedTest::lowestEmptyPlace, TermsReceivedTest::lostAndAskedFor,
+                TermsReceivedTest::rowHasAnEnd, TermsReceivedTest::fourthReadyOne,
+                TermsReceivedTest::noRoomAmongTheReadyOnes, TermsReceivedTest::keptForTheFirstOfTheRow,
+                TermsReceivedTest::emptyRow, TermsReceivedTest::onceInAll, TermsReceivedTest::whenANoteIsDue,
+                TermsReceivedTest::whenANoteOfTakeIsDue);
         check.end();
     }
 
@@ -40,7 +33,8 @@ final class TermsReceivedTest {
     }
 
     private static void fourPlaces(Check check) {
-        check.sentence("Terms", "RECEIVED: a node has 4 PLACES, empty, kept for a packet, or with a packet that is being joined.");
+        check.sentence("Terms", "RECEIVED: a node has 4 PLACES, empty, kept for a packet, or with a packet that is"
+                + " being joined.");
         FlitTorus x = fourAreJoined();
         check.node(x, 12, 0, 0, 0, 4, 0);
         check.equal("none was lost: count(4)", x.count(4), 0);
@@ -57,7 +51,8 @@ final class TermsReceivedTest {
     }
 
     private static void countsForItsPlace(Check check) {
-        check.sentence("Terms", "A flit counts for the place that is kept for its packet and TRY or has that packet and TRY");
+        check.sentence("Terms", "A flit counts for the place that is kept for its packet and TRY or has that packet"
+                + " and TRY");
         FlitTorus x = Nets.net(3, 0, 9);
         x.put(0, 1, 8, 5);
         x.put(2, 1, 8, 6);
@@ -159,7 +154,7 @@ final class TermsReceivedTest {
             check.equal("node(12, 4)", x.node(12, 4), 2 - i);
             Nets.run(x, 2);
             for (int k = 0; k < 3; k++) {
-                check.equal("the " + i + "th asked for goes again: node(" + from[k] + ", 6)", x.node(from[k], 6), k <= i ? 2 : 1);
+                check.equal("take " + i + ": node(" + from[k] + ", 6)", x.node(from[k], 6), k <= i ? 2 : 1);
             }
         }
     }
@@ -249,7 +244,8 @@ final class TermsReceivedTest {
     }
 
     private static void whenANoteIsDue(Check check) {
-        check.sentence("Terms", "A note is sent to the packet's source, and due as many cycles later as d says (sent in cycle c");
+        check.sentence("Terms", "A note is sent to the packet's source, and due as many cycles later as d says"
+                + " (sent in cycle c");
         // To a node beside, to the farthest one, and to one beside whose link is closed.
         int[] goals = {1, 36, 8};
         int[] ways = {1, 8, 3};
