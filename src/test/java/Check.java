@@ -52,6 +52,13 @@ final class Check {
         }
     }
 
+    void equal(String call, String got, String due) {
+        asked++;
+        if (!got.equals(due)) {
+            fault(call + " answered " + got + ", due is " + due);
+        }
+    }
+
     void isTrue(String call, boolean got) {
         equal(call, got ? 1 : 0, 1);
     }

@@ -30,6 +30,7 @@ final class ReadmeTest {
             follow(check, example, shown);
         }
         face(check, text, shown);
+        whats(check, text);
         tests(check, text);
         check.end();
     }
@@ -61,7 +62,7 @@ final class ReadmeTest {
             if (isCall) {
                 String got = answer(net, call.group(1), call.group(2));
                 String due = call.group(3).equals("NONE") ? "-1" : call.group(3);
-                check.isTrue("README.md: " + line + " [the answer was " + got + "]", got.equals(due));
+                check.equal("README.md: " + line, got, due);
                 shown.add(call.group(1));
             }
         }
@@ -120,6 +121,29 @@ final class ReadmeTest {
                 + String.join(", ", parameters) + "\\)" + behind;
     }
 
+    /** The tables have each what that is answered, and none besides, where there is something to tell of. */
+    private static void whats(Check check, String text) {
+        FlitTorus net = new FlitTorus();
+        net.put(0, 1, 1, 5);
+        net.put(0, 1, 1, 6);
+        Nets.run(net, 2);
+        net.take(1);
+        for (int what = -1; what < 12; what++) {
+            table(check, text, "taken", what, net.taken(1, what));
+            table(check, text, "count", what, net.count(what));
+            table(check, text, "node", what, net.node(1, what));
+            table(check, text, "golden", what, net.golden(what));
+            table(check, text, "flit", what, net.flit(1, 0, what));
+        }
+    }
+
+    private static void table(Check check, String text, String call, int what, int answer) {
+        int start = text.indexOf("### `int " + call + "(");
+        int end = text.indexOf("\n##", start);
+        boolean isThere = start >= 0 && end >= 0 && text.substring(start, end).contains("\n| " + what + " |");
+        check.isTrue("the table of " + call + " and what " + what, isThere == (answer != FlitTorus.NONE));
+    }
+
     private static void tests(Check check, String text) throws IOException {
         Set<String> named = new TreeSet<>();
         Matcher name = TEST_NAME.matcher(text);
@@ -133,6 +157,6 @@ final class ReadmeTest {
                 there.add(file.getFileName().toString().replace(".java", ""));
             }
         }
-        check.isTrue("the tests are " + there + ", README.md names " + named, named.equals(there));
+        check.equal("which tests README.md names", named.toString(), there.toString());
     }
 }
